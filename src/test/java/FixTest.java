@@ -70,6 +70,10 @@ public final class FixTest {
         TurnSchool x = Puzzles.of(add, add);
         fix(x, 1, 0, 2, 6);
         fixed(x, 0, 2, 0, 2);
+        int[] whole = {1, 0, 0, 3, 0, 1, 3, 0, 0, 2, 0, 0};
+        TurnSchool all = Puzzles.of(whole, whole);
+        fix(all, 0, 0, 2, 8);
+        fixed(all, 0, 3, 0, 3);
         int[] late = {3, 0, 5, 1, 0, 0, 3, 0, 1, 2, 0, 0};
         TurnSchool y = Puzzles.of(late, new int[] {3, 0, 5, 6, 0, 1});
         fix(y, 0, 0, 2, 4);

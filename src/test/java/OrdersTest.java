@@ -142,6 +142,22 @@ public final class OrdersTest {
         CHECK.due("12: nth(2, 1)", x.nth(2, 1), 3);
         CHECK.due("12: nth(1, 0)", x.nth(1, 0), 4);
         CHECK.due("11: count(1)", x.count(1), 1);
+        // A loop within a loop, found anew when the puzzle is another one.
+        TurnSchool y = Puzzles.of(new int[] {1, 1, 0, 4, 0, 0, 4, 0, 1});
+        CHECK.due("11: count(2)", y.count(2), 2);
+        y.value(1, 1);
+        CHECK.due("11: count(2) of another puzzle", y.count(2), 0);
+        y.puzzle(2);
+        y.code(0, 4, 0, 0);
+        y.code(1, 3, 0, 1);
+        y.code(1, 3, 0, 9);
+        y.code(1, 4, 0, 0);
+        CHECK.due("11: count(2) of yet another", y.count(2), 3);
+        CHECK.due("10: states(0)", y.states(0), 3);
+        // A long path back: ten rounds of eleven steps, until all places are 0 again.
+        TurnSchool far = Puzzles.of(new int[] {6, 0, 1, 6, 1, 3, 6, 2, 7, 1, 3, 0, 4, 0, 0});
+        CHECK.due("10: states(0)", far.states(0), 110);
+        CHECK.due("11: count(2)", far.count(2), 110);
     }
 
     private static void ways() {
@@ -204,6 +220,7 @@ public final class OrdersTest {
         CHECK.due("16: TAKE and TEST", raceOf(take, test), 0);
         CHECK.due("16: SET and LONG", raceOf(set, longOne), 0);
         CHECK.due("16: LONG and TAKE", raceOf(longOne, take), 3);
+        CHECK.due("16: place 0", raceOf(new int[] {0, 0, 1}, new int[] {1, 0, 0}), 0);
         CHECK.due("16: other places", raceOf(set, new int[] {1, 2, 0}), -2);
         CHECK.due("16: no places", raceOf(new int[] {3, 1, 0}, new int[] {4, 1, 0}), -2);
         CHECK.due("16: a lock is no place", raceOf(new int[] {8, 1, 0}, set), -2);

@@ -11,6 +11,7 @@ public final class RunTest {
         longs();
         until();
         enterAndLeave();
+        runIsTrue();
         failures();
         waitAndCall();
         meet();
@@ -143,6 +144,21 @@ public final class RunTest {
         sees(x, 0, 0, 1);
     }
 
+    /** The run goes on as in TRUE, whichever pictures were asked. */
+    private static void runIsTrue() {
+        TurnSchool x = Puzzles.of(new int[] {8, 0, 0, 6, 0, 1}, new int[] {8, 0, 0});
+        for (int picture = 0; picture < 5; picture++) {
+            CHECK.due("states(" + picture + ") is told", x.states(picture) > 0 ? 1 : 0, 1);
+            x.start();
+            goes(x, 0);
+            sees(x, 3, 1, 0);
+            goes(x, 0);
+            sees(x, 2, 0, 1);
+            goes(x, 0, 0);
+            CHECK.due("the run is at a stuck state of TRUE", x.lead(x.nth(1, 1)), 0);
+        }
+    }
+
     private static void failures() {
         TurnSchool x = Puzzles.of(new int[] {8, 0, 0, 3, 0, 4, 9, 2, 0, 3, 0, 1}, new int[] {9, 0, 0});
         goes(x, 0, 0);
@@ -196,6 +212,13 @@ public final class RunTest {
         goes(x, 1, 0, 0, 2);
         sees(x, 0, 0, 10);
         sees(x, 0, 2, 10);
+        // A woken hand waits for the lock, whoever has it.
+        TurnSchool y = Puzzles.of(new int[] {8, 1, 0, 11, 1, 0, 9, 1, 0}, sleeper);
+        goes(y, 1, 1, 0, 0);
+        sees(y, 4, 1, 2);
+        sees(y, 3, 1, 0);
+        goes(y, 0);
+        sees(y, 3, 1, 1);
     }
 
     private static void meet() {
@@ -216,6 +239,9 @@ public final class RunTest {
         goes(x, 1, 0);
         sees(x, 0, 0, 10);
         sees(x, 0, 1, 10);
+        TurnSchool early = Puzzles.of(new int[] {3, 0, 1}, new int[] {12, 0, 0});
+        sees(early, 3, 1, 0);
+        goes(early, 0, 1);
         TurnSchool alone = Puzzles.of(new int[] {12, 0, 0});
         goes(alone, 0);
         sees(alone, 0, 0, 10);
