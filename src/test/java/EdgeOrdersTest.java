@@ -18,6 +18,7 @@ public final class EdgeOrdersTest {
         neitherEndNorStuck();
         comeBack();
         allComeBack();
+        comeBackNoMore();
         countOutOfRange();
         nthFromZeroToTheLast();
         nthOutOfRange();
@@ -35,6 +36,7 @@ public final class EdgeOrdersTest {
         raceIsTheFirst();
         alwaysOutOfRange();
         alwaysIsTheFirst();
+        alwaysOfStatesThereAre();
         alwaysWithNoStepMade();
         alwaysWhereAHandNeverIs();
         canOutOfRange();
@@ -157,6 +159,12 @@ public final class EdgeOrdersTest {
         x.due("states 0 = 2000; count 2 = 2000; nth 2 0 = 0; nth 2 1999 = 1999; nth 2 2000 = -3; count 0 = 0; count 1 = 0");
     }
 
+    private static void comeBackNoMore() {
+        script("of an earlier puzzle none come back", "LONG 0 1, TAKE 3, JUMP 0", "ADD 0, JUMP 0").due(
+            "states 0 = 100; count 2 = 100; nth 2 99 = 99; uncode 1 = 1; count 2 = 100; nth 2 100 = -3; puzzle 2 = 4; count 2 = 0; nth 2 0 = -3;"
+            + "code 0 3 0 0 = 0; count 2 = 0; nth 2 0 = -3; code 0 4 0 0 = 1; count 2 = 2; nth 2 1 = 1; nth 2 2 = -3; code 1 3 0 0 = 0; count 2 = 4");
+    }
+
     // Promises 11 and 12
 
     private static void countOutOfRange() {
@@ -267,6 +275,7 @@ public final class EdgeOrdersTest {
 
     private static void raceIsTheFirst() {
         script("16: the first state", "ADD 1, SET 0 1", "ADD 1, SET 0 1").due("race 0 1 = 4; race 1 0 = 4");
+        script("16: no state but those there are", "UNTIL 0 0", "SET 0 2").after("value 0 1").due("race 0 1 = -2; race 1 0 = -2; states 0 = 2");
         script("16: the first of several", "SET 0 1, SET 0 2", "SET 0 3, SET 0 4").due("race 0 1 = 0");
     }
 
@@ -283,6 +292,11 @@ public final class EdgeOrdersTest {
         script("17: the first state", "ADD 1", "SET 2 3, SET 2 4").due(
             "always 0 0 2 0 = 2; always 0 0 2 3 = 0; always 0 0 2 9 = 0; always 1 0 2 0 = -2; always 1 1 2 3 = -2; always 1 1 2 0 = 2;"
             + "always 0 0 1 0 = -2; always 0 0 1 1 = 0");
+    }
+
+    private static void alwaysOfStatesThereAre() {
+        script("17: no state but those there are", "ADD 1", "ADD 1").after("value 0 5; value 3 9").due(
+            "always 0 0 0 5 = -2; always 1 0 3 9 = -2; always 0 0 0 0 = 0; always 0 0 3 0 = 0");
     }
 
     private static void alwaysWithNoStepMade() {

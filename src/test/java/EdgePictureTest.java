@@ -25,6 +25,8 @@ public final class EdgePictureTest {
         openOfWokenAlone();
         openOfNothingElse();
         openAtMostTwoThousand();
+        locksOfEveryPicture();
+        placesOfEveryPicture();
         oneSpentTheOthersNot();
         CHECK.end();
     }
@@ -187,6 +189,35 @@ public final class EdgePictureTest {
         String entering = "ENTER 0, ENTER 0, " + Script.times(5, "ADD 0");
         script("OPEN: 2000 states", TWENTY_FIVE, TEN, entering).due("states 4 = 2000; can 4 0 0 = 1; states 0 = 500; can 0 0 0 = 0");
         script("OPEN: one more would come", TWENTY_FIVE, TEN, entering + ", MEET").due("states 4 = -5; can 4 0 0 = -5; states 0 = 500");
+    }
+
+    // "STATES tell the HAND that stepped last, too": and all else as before
+
+    /** Each lock in each hand, behind a step of each hand: no lock is mistaken for who stepped last. */
+    private static void locksOfEveryPicture() {
+        for (int lock = 0; lock < 3; lock++) {
+            for (int hand = 0; hand < 3; hand++) {
+                String[] hands = {"ADD 0", "ADD 0", "ADD 0"};
+                hands[hand] = "ADD 0, ENTER " + lock + ", ADD 0, LEAVE " + lock + ", SET 0 1";
+                Script x = script("lock " + lock + " of hand " + hand, hands);
+                x.due("states 0 = 24; states 1 = 29; states 2 = 8; states 3 = 24; states 4 = 24");
+                for (int picture = 0; picture < 5; picture++) {
+                    x.due("can " + picture + " 0 1 = 1; can " + picture + " 0 0 = 0");
+                }
+                hands[hand] = "ENTER " + lock + ", ADD 0";
+                hands[(hand + 1) % 3] = "ENTER " + lock + ", SET 0 9";
+                script("lock " + lock + " of hand " + hand + " is another's", hands).due(
+                    "can 0 0 9 = 0; can 1 0 9 = 0; can 2 0 9 = 0; can 3 0 9 = 0; can 4 0 9 = 1; count 1 = 2; count 0 = 0");
+            }
+        }
+    }
+
+    private static void placesOfEveryPicture() {
+        for (int picture = 0; picture < 5; picture++) {
+            script("places of picture " + picture, "SET 0 9, SET 3 9, ADD 9", "SET 1 9, ADD 8", "SET 2 9, ADD 7, ENTER 2").due(
+                "can " + picture + " 0 9 = 1; can " + picture + " 1 9 = 1; can " + picture + " 2 9 = 1; can " + picture + " 3 9 = 1;"
+                + "can " + picture + " 0 8 = 0; can " + picture + " 3 0 = 0");
+        }
     }
 
     private static void oneSpentTheOthersNot() {
