@@ -47,6 +47,7 @@ public final class EdgeArgumentsTest {
         each("can", false, WHATS, PLACES, DIGITS);
         each("fix", false, LOCKS, PLACES, DIGITS);
         each("fixed", false, HANDS, HANDS);
+        each("answer", false, PLACES, DIGITS, new int[] {0, 1});
         each("cost", false, WHATS);
         each("keep", false, SHELVES, WHATS, HANDS, STATEMENTS);
         each("make", false, SHELVES, WHATS, SIZES);
@@ -113,6 +114,7 @@ public final class EdgeArgumentsTest {
         ask("element", 0, 3);
         ask("element", 1, 1);
         ask("weight", 2);
+        ask("cost", 0);
     }
 
     private static void ask(String name, int... numbers) {
@@ -122,6 +124,9 @@ public final class EdgeArgumentsTest {
 
     private static String answer(Object object, String name, int[] numbers) {
         Object[] arguments = Arrays.stream(numbers).boxed().toArray();
+        if (name.equals("answer")) {
+            arguments[2] = numbers[2] == 1;
+        }
         try {
             return methodOf(object, name).invoke(object, arguments).toString();
         } catch (InvocationTargetException thrown) {
