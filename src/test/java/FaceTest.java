@@ -23,6 +23,7 @@ public final class FaceTest {
         otherMembers();
         source();
         methods();
+        depth();
         CHECK.end();
     }
 
@@ -142,5 +143,38 @@ public final class FaceTest {
                 begun = -1;
             }
         }
+    }
+
+    /** Rule 11: calls go at most eight deep; none comes back to itself. */
+    private static void depth() throws IOException {
+        Map<String, String> bodies = bodies();
+        CHECK.due("methods are seen", bodies.size() > 29 ? 1 : 0, 1);
+        for (String name : dueFace().keySet()) {
+            CHECK.due("too deep: " + name, deepest(name, bodies, 0) > 8 ? 1 : 0, 0);
+        }
+    }
+
+    /** Each method's body, by its name; like names are taken as one. */
+    private static Map<String, String> bodies() throws IOException {
+        String text = bareSource();
+        Map<String, String> bodies = new TreeMap<>();
+        Pattern head = Pattern.compile("(?m)^( {4,8})(?:public |private |static |final )*[\\w\\[\\]]+ (\\w+)\\([^;{]*\\{");
+        Matcher heads = head.matcher(text);
+        while (heads.find()) {
+            int end = text.indexOf("\n" + heads.group(1) + "}", heads.end());
+            bodies.merge(heads.group(2), text.substring(heads.end(), end), String::concat);
+        }
+        return bodies;
+    }
+
+    private static int deepest(String name, Map<String, String> bodies, int above) {
+        int deepest = above + 1;
+        Matcher calls = Pattern.compile("\\b(\\w+)\\(").matcher(bodies.get(name));
+        while (calls.find() && deepest <= 8) {
+            if (bodies.containsKey(calls.group(1))) {
+                deepest = Math.max(deepest, deepest(calls.group(1), bodies, above + 1));
+            }
+        }
+        return deepest;
     }
 }
